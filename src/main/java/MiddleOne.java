@@ -389,8 +389,13 @@ public final class MiddleOne {
         private static final int[] LEAST = {100, 0, 1, 0, 0};
         private static final int[] GREATEST = {220, 99, 99, 20, 99};
 
+        private static final int UNKNOWN = -1;
+
         private final int[] numbers = new int[SORTS * ROOM];
         private int count = 0;
+        /** Who is there at the strokes of a day: the same for the many days that one question tries. */
+        private final int[] there = new int[LONGEST_DAY];
+        private boolean thereIsStale = true;
 
         static boolean isNumber(int what) {
             return what >= 0 && what < SORTS;
@@ -417,7 +422,9 @@ public final class MiddleOne {
         }
 
         void setNumber(int what, int p, int v) {
-            if (what >= 0 && what < SORTS && p >= 0 && p < count) numbers[what * ROOM + p] = v;
+            if (what < 0 || what >= SORTS || p < 0 || p >= count) return;
+            numbers[what * ROOM + p] = v;
+            if (what == COMES || what == STAYS) thereIsStale = true;
         }
 
         int joins(int height, int comes, int stays) {
@@ -429,26 +436,39 @@ public final class MiddleOne {
             numbers[STAYS * ROOM + p] = stays;
             numbers[HEELS * ROOM + p] = 0;
             numbers[PRICE * ROOM + p] = FIRST_PRICE;
+            thereIsStale = true;
             return p;
         }
 
         /** The last ones go again, till n are left. */
         void shrinks(int n) {
-            if (n >= 0 && n < count) count = n;
+            if (n < 0 || n >= count) return;
+            count = n;
+            thereIsStale = true;
         }
 
         void becomes(Crowd other) {
             System.arraycopy(other.numbers, 0, numbers, 0, numbers.length);
             count = other.count;
+            thereIsStale = true;
         }
 
         /** Who of a set is there at a stroke, as bits. */
         int waiting(int s, int among) {
+            if (s < 0 || s >= LONGEST_DAY) return thereAt(s) & among;
+            if (thereIsStale) {
+                Arrays.fill(there, UNKNOWN);
+                thereIsStale = false;
+            }
+            if (there[s] == UNKNOWN) there[s] = thereAt(s);
+            return there[s] & among;
+        }
+
+        private int thereAt(int s) {
             int bits = 0;
             for (int p = 0; p < count; p++) {
                 int from = numbers[COMES * ROOM + p];
-                boolean there = from <= s && s < from + numbers[STAYS * ROOM + p];
-                if (there && ((among >> p) & 1) != 0) bits |= 1 << p;
+                if (from <= s && s < from + numbers[STAYS * ROOM + p]) bits |= 1 << p;
             }
             return bits;
         }
