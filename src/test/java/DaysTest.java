@@ -78,6 +78,8 @@ public final class DaysTest {
         due.is("too many", x.day(101, 0), BAD);
         due.is("no what below", x.day(5, -1), BAD);
         due.is("no what above", x.day(5, 3), BAD);
+        x.mend(0, 2, 4);
+        due.is("the first one went without", x.day(4, 1), 2);
         MiddleOne y = new MiddleOne();
         y.person(100, 0);
         y.person(100, 1);
@@ -99,6 +101,9 @@ public final class DaysTest {
         x.mend(0, 0, 101);
         due.is("331 by 3", x.mean(5, 1, 0), 331);
         due.is("331 by 3, below", x.mean(5, 1, 1), 3);
+        x.mend(3, 2, 1);
+        due.is("0, 2 and 3 by 3", x.mean(5, 0, 0), 5);
+        due.is("0, 2 and 3 by 3, below", x.mean(5, 0, 1), 3);
         x.mend(2, 3, 1);
         due.is("heels are off", x.mean(1, 1, 0), 110);
         due.is("wait is since it came", meanOfOne(), 0);

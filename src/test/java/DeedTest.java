@@ -184,6 +184,19 @@ public final class DeedTest {
         x.mend(0, 3, 1);
         due.is("forty still", x.count(4), 40);
         due.is("one less", x.undo(), 39);
+        MiddleOne y = crowd(100, 100, 100);
+        for (int i = 1; i <= 42; i++) y.mend(i % 3, i % 2 * 3, (i % 2 == 0 ? 150 : 0) + i / 3);
+        for (int i = 42; i >= 3; i--) y.undo();
+        due.is("the first two stay", y.of(2, 0), 150);
+        due.is("no more of them", y.undo(), STATE);
+        for (int p = 0; p < 3; p++) {
+            due.is("height of " + p, y.of(p, 0), p == 2 ? 150 : 100);
+            due.is("heels of " + p, y.of(p, 3), 0);
+        }
+        for (int i = 3; i <= 42; i++) {
+            y.redo();
+            due.is("done again " + i, y.of(i % 3, i % 2 * 3), (i % 2 == 0 ? 150 : 0) + i / 3);
+        }
     }
 
     public static void main(String[] args) {

@@ -90,6 +90,9 @@ public final class LawTest {
         gives("(h)+((((((h))))))", 300);
         gives("!!!!!!h", 1);
         gives("-!(-!(h))", -1);
+        // As much as can wait to be joined: five on each of seven levels.
+        String open = "0|1&1<1+1*";
+        gives(open + "(" + open + "(" + open + "(" + open + "(" + open + "(" + open + "(" + open + "2))))))", 1);
     }
 
     private static void lines() {
@@ -102,6 +105,9 @@ public final class LawTest {
         gives("4;1?5", 4);
         gives("0;5", 0);
         gives("h>149&e=7?n*100;1", 400);
+        gives("1|1?0|5;8", 1);
+        gives("((((((h))))))?((((((e))))));8", 7);
+        gives("!!!!!!0?5;!!!!!!n", 1);
     }
 
     private static void faults() {

@@ -62,11 +62,17 @@ public final class PeopleTest {
         due.is("heels", x.of(1, 3), 0);
         due.is("price", x.of(1, 4), 5);
         due.is("no more than wanted", x.people(1, 1, 1), 1);
+        due.is("the last three of the row", x.people(1, 4, 2), 1);
         due.is("from behind the end", x.people(1, 9, 1), 0);
         due.is("from far behind the end", x.people(1, Integer.MAX_VALUE, 12), 0);
         due.is("from ahead of the row", x.people(1, -1, 1), 0);
         due.is("from far ahead of the row", x.people(1, Integer.MIN_VALUE, 1), 0);
-        due.is("three are there", x.count(0), 3);
+        due.is("four are there", x.count(0), 4);
+        x.row(1, SHORTS, 60);
+        for (int i = 57; i < 60; i++) x.put(1, i, i == 57 ? 170 : 3);
+        due.is("the last three of the longest row", x.people(1, 57, 12), 1);
+        due.is("from its end", x.people(1, 60, 12), 0);
+        due.is("five are there", x.count(0), 5);
         due.is("a coming is no change", x.count(4), 0);
     }
 

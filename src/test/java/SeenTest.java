@@ -118,6 +118,16 @@ public final class SeenTest {
         y.mend(1, 3, 20);
         Due.row(y, 0, BYTES, 2);
         due.is("1 as it is", y.heeled(0), 0);
+        // Found by trying: of all sixteen sets the last alone.
+        MiddleOne z = new MiddleOne();
+        int[][] people = {{170, 0, 1}, {167, 0, 16}, {159, 1, 1}, {169, 0, 5}};
+        for (int p = 0; p < 4; p++) {
+            z.person(people[p][0], people[p][1]);
+            z.mend(p, 3, people[p][2]);
+        }
+        Due.law(z, "h*e%31");
+        Due.row(z, 0, BYTES, 1, 2);
+        due.is("all wore them", z.heeled(0), 15);
     }
 
     /** The draws worked out here; alone it is let in as it comes. */

@@ -51,6 +51,44 @@ public final class WishesTest {
         due.is("all are still there", x.day(1, 2), 3);
     }
 
+    /** People who are all there at 0: height, stays, price. */
+    private static MiddleOne told(int[]... all) {
+        MiddleOne x = new MiddleOne();
+        for (int p = 0; p < all.length; p++) {
+            x.person(all[p][0], 0);
+            x.mend(p, 2, all[p][1]);
+            x.mend(p, 4, all[p][2]);
+        }
+        return x;
+    }
+
+    private static void sentOfLikePrices() {
+        // Without 0 and 2: 4 is in at 0, 1 is alone at 1. Without 4: even at 0, 1 is alone at 1.
+        MiddleOne x = told(new int[][] {{160, 1, 1}, {180, 3, 4}, {190, 1, 1}, {220, 1, 2}, {210, 2, 2}});
+        due.is("the price of two ways", x.sent(1, 11, 0), 2);
+        due.is("the fewer, though greater by bits", x.sent(1, 11, 1), 16);
+        x.mend(4, 4, 3);
+        due.is("the lesser price, though more", x.sent(1, 11, 1), 5);
+        x.mend(0, 4, 4);
+        due.is("the price of the first counts", x.sent(1, 11, 1), 16);
+    }
+
+    private static void sentBy() {
+        // 0 is alone at 1, since 1 stays but one stroke.
+        MiddleOne x = told(new int[][] {{150, 9, 5}, {160, 1, 5}});
+        due.is("at 1", x.sent(0, 10, 1), 0);
+        due.is("by 1", x.sent(0, 11, 1), 0);
+        due.is("by 0", x.sent(0, 1, 1), 2);
+        // Whoever comes behind the stroke has no part in it.
+        x.person(170, 1);
+        x.person(180, 1);
+        x.mend(2, 4, 0);
+        due.is("at 0", x.sent(0, 0, 1), 2);
+        due.is("at 1 with two more, of whom 2 is the middle one", x.sent(0, 10, 0), 5);
+        due.is("at 1 without both", x.sent(0, 10, 1), 4 + 8);
+        due.is("it must be there itself", x.sent(2, 1, 0), NOT);
+    }
+
     private static void sentByLaw() {
         MiddleOne x = crowd(100, 110, 120);
         Due.law(x, "k=2?0;k+1");
@@ -86,6 +124,13 @@ public final class WishesTest {
         due.is("one for the third", y.brought(2, 0, 1), 120);
         due.is("three for the last", y.brought(3, 0, 0), 3);
         due.is("three for the last, height", y.brought(3, 0, 1), 130);
+        MiddleOne five = crowd(150, 160, 170, 180, 190);
+        due.is("four would be too many", five.brought(0, 0, 0), NOT);
+        due.is("two for the second", five.brought(1, 0, 1), 100);
+        MiddleOne top = crowd(220, 150, 160);
+        due.is("boys of the greatest height", top.brought(0, 0, 1), 220);
+        top.mend(0, 3, 1);
+        due.is("taller ones there are not", top.brought(0, 0, 1), NOT);
         due.is("nobody there", y.brought(4, 0, 0), BAD);
         due.is("nobody ahead", y.brought(-1, 0, 0), BAD);
         due.is("no stroke below", y.brought(0, -1, 0), BAD);
@@ -199,11 +244,30 @@ public final class WishesTest {
         // 0 wears 6 to be the middle one; 1 wears 2 (157) to be it again; 0 wears 8, .. till 1 wears 16 and 0 would need 22.
         due.is("someone gives up, then it begins anew", z.allWear(-1), NOT);
         due.is("heels of none", z.allWear(0), NOT);
+        due.is("the highest heels are worn, too", crowd(150, 169, 200).allWear(-1), NOT);
         MiddleOne w = crowd(150, 175, 200);
         due.is("out of reach", w.allWear(-1), 1);
         due.is("heels of the middle one", w.allWear(1), 0);
         due.is("nobody there", w.allWear(3), BAD);
         due.is("nobody ahead", w.allWear(-2), BAD);
+    }
+
+    /** Found by trying: one crowd needs 20 rounds, the other 21. */
+    private static void allWearRounds() {
+        MiddleOne x = new MiddleOne();
+        int[][] twenty = {{178, 2, 99}, {157, 1, 99}, {157, 3, 5}, {159, 1, 99}, {176, 2, 5}};
+        for (int p = 0; p < 5; p++) {
+            x.person(twenty[p][0], twenty[p][1]);
+            x.mend(p, 2, twenty[p][2]);
+        }
+        due.is("the last round of all", x.allWear(-1), 20);
+        MiddleOne y = new MiddleOne();
+        int[][] more = {{155, 1, 4}, {155, 1, 99}, {175, 3, 3}, {174, 1, 3}};
+        for (int p = 0; p < 4; p++) {
+            y.person(more[p][0], more[p][1]);
+            y.mend(p, 2, more[p][2]);
+        }
+        due.is("one round too many", y.allWear(-1), NOT);
     }
 
     private static void allWearWithin30() {
@@ -222,12 +286,15 @@ public final class WishesTest {
 
     public static void main(String[] args) {
         sent();
+        sentOfLikePrices();
+        sentBy();
         sentByLaw();
         brought();
         broughtByLaw();
         heels();
         later();
         allWear();
+        allWearRounds();
         allWearWithin30();
         due.ends();
     }
