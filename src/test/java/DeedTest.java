@@ -3,18 +3,12 @@ public final class DeedTest {
     private static final Due due = new Due("DeedTest");
     private static final int BAD = MiddleOne.BAD, NOT = MiddleOne.NOT, STATE = MiddleOne.STATE;
 
-    private static MiddleOne crowd(int... heights) {
-        MiddleOne x = new MiddleOne();
-        for (int h : heights) x.person(h, 0);
-        return x;
-    }
-
     private static void led(MiddleOne x, String when, int... want) {
         for (int what = 0; what < 6; what++) due.is(when + ": led(" + what + ")", x.led(what), want[what]);
     }
 
     private static void strike() {
-        MiddleOne x = crowd(150, 160, 170);
+        MiddleOne x = Due.crowd(150, 160, 170);
         due.is("the middle one", x.strike(), 1);
         due.is("two are even", x.strike(), NOT);
         led(x, "two strokes", 2, 1, 0, 0, 3, 2);
@@ -30,7 +24,7 @@ public final class DeedTest {
 
     /** Of no use within 512 calls, but told: NOW ends at 999. */
     private static void theLastStroke() {
-        MiddleOne x = crowd(150);
+        MiddleOne x = Due.crowd(150);
         x.mend(0, 1, 99);
         for (int s = 0; s < 999; s++) due.is("stroke " + s, x.strike(), s == 99 ? 0 : NOT);
         due.is("NOW is 999", x.led(5), 999);
@@ -39,7 +33,7 @@ public final class DeedTest {
     }
 
     private static void take() {
-        MiddleOne x = crowd(150, 160, 170);
+        MiddleOne x = Due.crowd(150, 160, 170);
         due.is("nobody there", x.take(3), BAD);
         due.is("nobody ahead", x.take(-1), BAD);
         due.is("at 0", x.take(1), 0);
@@ -57,7 +51,7 @@ public final class DeedTest {
     }
 
     private static void dawn() {
-        MiddleOne x = crowd(150, 160, 170);
+        MiddleOne x = Due.crowd(150, 160, 170);
         due.is("nobody was in", x.dawn(), 0);
         x.strike();
         x.take(0);
@@ -72,7 +66,7 @@ public final class DeedTest {
     }
 
     private static void led() {
-        MiddleOne x = crowd(150);
+        MiddleOne x = Due.crowd(150);
         due.is("no what below", x.led(-1), BAD);
         due.is("no what above", x.led(6), BAD);
         x.person(160, 1);
@@ -88,7 +82,7 @@ public final class DeedTest {
     }
 
     private static void image() {
-        MiddleOne x = crowd(150, 160, 170, 180);
+        MiddleOne x = Due.crowd(150, 160, 170, 180);
         due.is("no image", x.back(), STATE);
         x.take(3);
         x.strike();
@@ -121,7 +115,7 @@ public final class DeedTest {
     }
 
     private static void undo() {
-        MiddleOne x = crowd(150, 160);
+        MiddleOne x = Due.crowd(150, 160);
         due.is("none", x.undo(), STATE);
         due.is("none again", x.redo(), STATE);
         x.mend(0, 0, 151);
@@ -145,7 +139,7 @@ public final class DeedTest {
     }
 
     private static void redo() {
-        MiddleOne x = crowd(150);
+        MiddleOne x = Due.crowd(150);
         x.mend(0, 0, 151);
         x.mend(0, 0, 152);
         x.mend(0, 0, 153);
@@ -173,7 +167,7 @@ public final class DeedTest {
     }
 
     private static void fortyAtMost() {
-        MiddleOne x = crowd(100);
+        MiddleOne x = Due.crowd(100);
         for (int i = 1; i <= 45; i++) x.mend(0, 0, 100 + i);
         due.is("forty", x.count(4), 40);
         for (int left = 39; left >= 0; left--) due.is("undone, left " + left, x.undo(), left);
@@ -184,7 +178,7 @@ public final class DeedTest {
         x.mend(0, 3, 1);
         due.is("forty still", x.count(4), 40);
         due.is("one less", x.undo(), 39);
-        MiddleOne y = crowd(100, 100, 100);
+        MiddleOne y = Due.crowd(100, 100, 100);
         for (int i = 1; i <= 42; i++) y.mend(i % 3, i % 2 * 3, (i % 2 == 0 ? 150 : 0) + i / 3);
         for (int i = 42; i >= 3; i--) y.undo();
         due.is("the first two stay", y.of(2, 0), 150);

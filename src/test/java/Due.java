@@ -27,6 +27,13 @@ final class Due {
         if (wrong != 0 || asked == 0) System.exit(1);
     }
 
+    /** People of these heights who are all there at stroke 0. */
+    static MiddleOne crowd(int... heights) {
+        MiddleOne x = new MiddleOne();
+        for (int h : heights) x.person(h, 0);
+        return x;
+    }
+
     /** Feeds a text and makes it the law. */
     static int law(MiddleOne x, String text) {
         for (int i = 0; i < text.length(); i++) x.feed(text.charAt(i));

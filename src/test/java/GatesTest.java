@@ -3,14 +3,8 @@ public final class GatesTest {
     private static final Due due = new Due("GatesTest");
     private static final int BAD = MiddleOne.BAD, NOT = MiddleOne.NOT, STATE = MiddleOne.STATE;
 
-    private static MiddleOne crowd(int... heights) {
-        MiddleOne x = new MiddleOne();
-        for (int h : heights) x.person(h, 0);
-        return x;
-    }
-
     private static void gates() {
-        MiddleOne x = crowd(150, 160, 170, 180, 170);
+        MiddleOne x = Due.crowd(150, 160, 170, 180, 170);
         // At the second gate the tallest goes first, even if they are even; of like ones the greater number.
         due.is("3 first", x.gates(4 + 8 + 16, 3), 0);
         due.is("4 ahead of 2", x.gates(4 + 8 + 16, 4), 1);
@@ -37,7 +31,7 @@ public final class GatesTest {
     }
 
     private static void gatesByLaw() {
-        MiddleOne x = crowd(150, 160, 170);
+        MiddleOne x = Due.crowd(150, 160, 170);
         Due.law(x, "n=2?-h;h");
         due.is("two wait at the second gate: the smallest is the tallest", x.gates(3, 0), 0);
         due.is("then the other, alone", x.gates(3, 1), 1);
@@ -45,7 +39,7 @@ public final class GatesTest {
     }
 
     private static void where() {
-        MiddleOne x = crowd(150, 160, 170);
+        MiddleOne x = Due.crowd(150, 160, 170);
         due.is("the middle one stays", x.where(1), 0);
         due.is("the smallest goes to the second gate", x.where(0), 1);
         x.mend(1, 2, 1);
@@ -57,7 +51,7 @@ public final class GatesTest {
     }
 
     private static void bestSet() {
-        MiddleOne x = crowd(150, 160, 170);
+        MiddleOne x = Due.crowd(150, 160, 170);
         due.is("no stroke", x.bestSet(0, 0), 0);
         due.is("no stroke, how many", x.bestSet(0, 1), 0);
         // By 1 stroke two can be in: three less one is even, so two stand at the second gate, the third alone.
@@ -70,9 +64,9 @@ public final class GatesTest {
         due.is("too many", x.bestSet(101, 0), BAD);
         due.is("no what below", x.bestSet(1, -1), BAD);
         due.is("no what above", x.bestSet(1, 2), BAD);
-        MiddleOne one = crowd(150);
+        MiddleOne one = Due.crowd(150);
         due.is("of like ones the least", one.bestSet(1, 0), 0);
-        MiddleOne y = crowd(150, 150, 150, 150, 150, 150, 150, 150);
+        MiddleOne y = Due.crowd(150, 150, 150, 150, 150, 150, 150, 150);
         due.is("eight people", y.bestSet(1, 1), 2);
         due.is("eight people, the least set: seven at the first gate", y.bestSet(1, 0), 1);
         y.person(150, 0);
@@ -98,18 +92,18 @@ public final class GatesTest {
     }
 
     private static void rule() {
-        MiddleOne x = crowd(150, 160);
+        MiddleOne x = Due.crowd(150, 160);
         due.is("two by 1", x.rule(1), NOT);
         due.is("two by 2, even or not", x.rule(2), 0);
         // The smallest first: 2 has gone by stroke 2; the tallest first: 2 is in at once.
-        MiddleOne y = crowd(150, 160, 170);
+        MiddleOne y = Due.crowd(150, 160, 170);
         y.mend(2, 2, 1);
         due.is("the tallest must be first", y.rule(3), 4);
         y.mend(2, 2, 99);
         y.mend(1, 2, 1);
         // Of three: 2 * 2 / 4 is 1, and 3 * 2 / 4 is 1.
         due.is("the middle must be first", y.rule(3), 2);
-        MiddleOne z = crowd(150, 160, 170, 180, 190);
+        MiddleOne z = Due.crowd(150, 160, 170, 180, 190);
         z.mend(1, 2, 1);
         due.is("of five the second is at place 1", z.rule(5), 1);
         z.mend(1, 2, 99);
@@ -117,7 +111,7 @@ public final class GatesTest {
         due.is("of five the fourth is at place 3", z.rule(5), 3);
         z.mend(0, 2, 2);
         due.is("both, since 0 can be second no more", z.rule(5), NOT);
-        MiddleOne w = crowd(150, 160);
+        MiddleOne w = Due.crowd(150, 160);
         w.mend(1, 2, 1);
         // Of two: 3 * 1 / 4 is cut to 0.
         due.is("cut", w.rule(2), 4);
@@ -126,7 +120,7 @@ public final class GatesTest {
         due.is("too few", w.rule(-1), BAD);
         due.is("too many", w.rule(101), BAD);
         due.is("nobody at all", new MiddleOne().rule(0), 0);
-        due.is("one by no stroke", crowd(150).rule(0), NOT);
+        due.is("one by no stroke", Due.crowd(150).rule(0), NOT);
     }
 
     public static void main(String[] args) {

@@ -4,14 +4,8 @@ public final class SeenTest {
     private static final int BAD = MiddleOne.BAD, NOT = MiddleOne.NOT, STATE = MiddleOne.STATE;
     private static final int BYTES = 0, SHORTS = 1;
 
-    private static MiddleOne crowd(int... heights) {
-        MiddleOne x = new MiddleOne();
-        for (int h : heights) x.person(h, 0);
-        return x;
-    }
-
     private static void refusals() {
-        MiddleOne x = crowd(150, 160, 170);
+        MiddleOne x = Due.crowd(150, 160, 170);
         for (int shelf : new int[] {-1, 6, Integer.MAX_VALUE, Integer.MIN_VALUE}) {
             due.is("judge: no shelf " + shelf, x.judge(shelf), BAD);
             due.is("with: no shelf " + shelf, x.with(shelf, 0), BAD);
@@ -55,7 +49,7 @@ public final class SeenTest {
     }
 
     private static void judge() {
-        MiddleOne x = crowd(150, 160, 170);
+        MiddleOne x = Due.crowd(150, 160, 170);
         x.mend(2, 2, 3);
         // 1 at 0; nobody at 1 and 2; 0 at 3; nobody from then on.
         x.row(0, BYTES, 0);
@@ -80,7 +74,7 @@ public final class SeenTest {
     }
 
     private static void with() {
-        MiddleOne x = crowd(150, 160, 170);
+        MiddleOne x = Due.crowd(150, 160, 170);
         Due.row(x, 0, BYTES, 1);
         // {1} and {0, 1, 2}.
         due.is("two sets", x.with(0, 0), 2);
@@ -98,7 +92,7 @@ public final class SeenTest {
     }
 
     private static void heeled() {
-        MiddleOne x = crowd(150, 155, 165);
+        MiddleOne x = Due.crowd(150, 155, 165);
         Due.row(x, 0, BYTES, 1);
         due.is("nobody", x.heeled(0), 0);
         Due.row(x, 0, BYTES, 0);
@@ -112,7 +106,7 @@ public final class SeenTest {
         Due.row(x, 0, BYTES, 0);
         due.is("0 as it is: the smaller of like ones", x.heeled(0), 0);
         due.is("heels told stay", x.of(0, 3), 15);
-        MiddleOne y = crowd(150, 161, 165);
+        MiddleOne y = Due.crowd(150, 161, 165);
         Due.row(y, 0, BYTES, 2);
         due.is("1 wore them: the least set", y.heeled(0), 2);
         y.mend(1, 3, 20);

@@ -3,14 +3,8 @@ public final class WishesTest {
     private static final Due due = new Due("WishesTest");
     private static final int BAD = MiddleOne.BAD, NOT = MiddleOne.NOT;
 
-    private static MiddleOne crowd(int... heights) {
-        MiddleOne x = new MiddleOne();
-        for (int h : heights) x.person(h, 0);
-        return x;
-    }
-
     private static void sent() {
-        MiddleOne x = crowd(100, 110, 120);
+        MiddleOne x = Due.crowd(100, 110, 120);
         due.is("nobody need go", x.sent(1, 0, 0), 0);
         due.is("nobody", x.sent(1, 0, 1), 0);
         due.is("both others", x.sent(0, 0, 0), 10);
@@ -30,7 +24,7 @@ public final class WishesTest {
         due.is("free of price", x.sent(0, 10, 0), 0);
         due.is("free of price, who", x.sent(0, 10, 1), 4);
 
-        MiddleOne y = crowd(100, 110, 120, 130, 140);
+        MiddleOne y = Due.crowd(100, 110, 120, 130, 140);
         // 1 is let in at 0 if it is in the middle: two of 2, 3, 4 go.
         due.is("of like prices the least bits", y.sent(1, 0, 1), 4 + 8);
         y.mend(2, 4, 6);
@@ -90,14 +84,14 @@ public final class WishesTest {
     }
 
     private static void sentByLaw() {
-        MiddleOne x = crowd(100, 110, 120);
+        MiddleOne x = Due.crowd(100, 110, 120);
         Due.law(x, "k=2?0;k+1");
         due.is("numbers stay as they are", x.sent(0, 0, 1), 0);
         due.is("numbers stay, 2 is the smallest", x.sent(2, 0, 1), 3);
     }
 
     private static void brought() {
-        MiddleOne x = crowd(150, 160, 170);
+        MiddleOne x = Due.crowd(150, 160, 170);
         due.is("none is needed", x.brought(1, 0, 0), 0);
         due.is("none is needed, height", x.brought(1, 0, 1), 0);
         due.is("two for the smallest", x.brought(0, 0, 0), 2);
@@ -116,7 +110,7 @@ public final class WishesTest {
         due.is("gone by then", x.brought(0, 5, 0), NOT);
         due.is("gone by then, height", x.brought(0, 5, 1), NOT);
 
-        MiddleOne y = crowd(100, 110, 120, 130);
+        MiddleOne y = Due.crowd(100, 110, 120, 130);
         due.is("a boy of like height is the taller", y.brought(0, 0, 0), NOT);
         y.mend(0, 0, 101);
         due.is("three for the first", y.brought(0, 0, 0), 3);
@@ -124,10 +118,10 @@ public final class WishesTest {
         due.is("one for the third", y.brought(2, 0, 1), 120);
         due.is("three for the last", y.brought(3, 0, 0), 3);
         due.is("three for the last, height", y.brought(3, 0, 1), 130);
-        MiddleOne five = crowd(150, 160, 170, 180, 190);
+        MiddleOne five = Due.crowd(150, 160, 170, 180, 190);
         due.is("four would be too many", five.brought(0, 0, 0), NOT);
         due.is("two for the second", five.brought(1, 0, 1), 100);
-        MiddleOne top = crowd(220, 150, 160);
+        MiddleOne top = Due.crowd(220, 150, 160);
         due.is("boys of the greatest height", top.brought(0, 0, 1), 220);
         top.mend(0, 3, 1);
         due.is("taller ones there are not", top.brought(0, 0, 1), NOT);
@@ -140,7 +134,7 @@ public final class WishesTest {
     }
 
     private static void broughtByLaw() {
-        MiddleOne x = crowd(150, 160, 170);
+        MiddleOne x = Due.crowd(150, 160, 170);
         Due.law(x, "k=3?1;k=4?999;k*100+n*0+e+w");
         due.is("numbers are behind all", x.brought(1, 0, 0), 0);
         // Two boys, one the smallest, one the tallest: the middle stays as it is.
@@ -158,7 +152,7 @@ public final class WishesTest {
     }
 
     private static void heels() {
-        MiddleOne x = crowd(150, 155, 165);
+        MiddleOne x = Due.crowd(150, 155, 165);
         due.is("as tall as 1, yet the lesser number", x.heels(0, 1, 0), 6);
         due.is("till as tall as 2", x.heels(0, 1, 2), 0x1FFFC0 & ((1 << 16) - 1));
         due.is("the earliest", x.heels(0, 1, 1), 6);
@@ -186,7 +180,7 @@ public final class WishesTest {
         due.is("too many", x.heels(0, 101, 0), BAD);
         due.is("no what below", x.heels(0, 1, -1), BAD);
         due.is("no what above", x.heels(0, 1, 3), BAD);
-        MiddleOne y = crowd(150, 170, 180);
+        MiddleOne y = Due.crowd(150, 170, 180);
         due.is("the highest heels", y.heels(0, 1, 0), NOT);
         y.mend(1, 0, 169);
         due.is("the highest heels help", y.heels(0, 1, 0), 20);
@@ -194,13 +188,13 @@ public final class WishesTest {
     }
 
     private static void later() {
-        MiddleOne x = crowd(150, 160, 170);
+        MiddleOne x = Due.crowd(150, 160, 170);
         // Ahead of 99 it makes 1 the middle one, and is even with 2 then; at 99 they have gone.
         due.is("at the very last", x.later(0), 99);
         x.person(160, 99);
         x.person(170, 99);
         due.is("nor is it the middle one at 99", x.later(0), NOT);
-        x = crowd(150, 160, 170);
+        x = Due.crowd(150, 160, 170);
         due.is("at once", x.later(1), 0);
         x.mend(1, 2, 3);
         x.mend(2, 2, 4);
@@ -214,7 +208,7 @@ public final class WishesTest {
         MiddleOne y = new MiddleOne();
         y.person(150, 50);
         due.is("alone: the earliest of all", y.later(0), 0);
-        MiddleOne z = crowd(150, 160, 170);
+        MiddleOne z = Due.crowd(150, 160, 170);
         for (int p = 1; p < 3; p++) {
             z.mend(p, 1, 1);
             z.mend(p, 2, 99);
@@ -222,7 +216,7 @@ public final class WishesTest {
         due.is("ahead of the others", z.later(0), 0);
         z.mend(0, 1, 99);
         due.is("told coming does not count", z.later(0), 0);
-        MiddleOne last = crowd(150, 160);
+        MiddleOne last = Due.crowd(150, 160);
         last.mend(0, 1, 3);
         last.mend(1, 2, 99);
         due.is("1 is in at 0: later is best", last.later(0), 1);
@@ -230,22 +224,22 @@ public final class WishesTest {
 
     private static void allWear() {
         due.is("nobody chooses", new MiddleOne().allWear(-1), 1);
-        MiddleOne x = crowd(150);
+        MiddleOne x = Due.crowd(150);
         due.is("one without heels", x.allWear(-1), 1);
         x.mend(0, 3, 9);
         due.is("one takes them off", x.allWear(-1), 2);
         due.is("heels then", x.allWear(0), 0);
         due.is("heels told stay", x.of(0, 3), 9);
-        MiddleOne y = crowd(150, 160);
+        MiddleOne y = Due.crowd(150, 160);
         y.mend(1, 3, 4);
         due.is("never is like never: the least", y.allWear(1), 0);
         due.is("two rounds for it", y.allWear(-1), 2);
-        MiddleOne z = crowd(150, 155, 200);
+        MiddleOne z = Due.crowd(150, 155, 200);
         // 0 wears 6 to be the middle one; 1 wears 2 (157) to be it again; 0 wears 8, .. till 1 wears 16 and 0 would need 22.
         due.is("someone gives up, then it begins anew", z.allWear(-1), NOT);
         due.is("heels of none", z.allWear(0), NOT);
-        due.is("the highest heels are worn, too", crowd(150, 169, 200).allWear(-1), NOT);
-        MiddleOne w = crowd(150, 175, 200);
+        due.is("the highest heels are worn, too", Due.crowd(150, 169, 200).allWear(-1), NOT);
+        MiddleOne w = Due.crowd(150, 175, 200);
         due.is("out of reach", w.allWear(-1), 1);
         due.is("heels of the middle one", w.allWear(1), 0);
         due.is("nobody there", w.allWear(3), BAD);
