@@ -180,7 +180,11 @@ public final class DeedTest {
         due.is("one less", x.undo(), 39);
         MiddleOne y = Due.crowd(100, 100, 100);
         for (int i = 1; i <= 42; i++) y.mend(i % 3, i % 2 * 3, (i % 2 == 0 ? 150 : 0) + i / 3);
-        for (int i = 42; i >= 3; i--) y.undo();
+        for (int i = 42; i >= 3; i--) {
+            y.undo();
+            int before = i > 6 ? (i % 2 == 0 ? 150 : 0) + (i - 6) / 3 : i % 2 == 0 ? 100 : 0;
+            due.is("undone " + i, y.of(i % 3, i % 2 * 3), before);
+        }
         due.is("the first two stay", y.of(2, 0), 150);
         due.is("no more of them", y.undo(), STATE);
         for (int p = 0; p < 3; p++) {

@@ -64,6 +64,8 @@ public final class GatesTest {
         due.is("too many", x.bestSet(101, 0), BAD);
         due.is("no what below", x.bestSet(1, -1), BAD);
         due.is("no what above", x.bestSet(1, 2), BAD);
+        due.is("nobody at all", new MiddleOne().bestSet(5, 0), 0);
+        due.is("nobody at all, how many", new MiddleOne().bestSet(5, 1), 0);
         MiddleOne one = Due.crowd(150);
         due.is("of like ones the least", one.bestSet(1, 0), 0);
         MiddleOne y = Due.crowd(150, 150, 150, 150, 150, 150, 150, 150);
