@@ -83,7 +83,7 @@ public final class MiddleOne {
     public int of(int person, int what) {
         if (!told.has(person)) return BAD;
         if (Crowd.isNumber(what)) return told.number(what, person);
-        if (what == 10) return (deed.waiting() >> person) & 1;
+        if (what == 10) return (deed.waitingNow() >> person) & 1;
         if (what == 11) return deed.inSince(person);
         return BAD;
     }
@@ -96,7 +96,7 @@ public final class MiddleOne {
 
     public int law() {
         int fault = reader.faultOfText();
-        if (fault < 0) law.becomes(reader);
+        if (fault < 0) law.learns(reader);
         reader.clears();
         return fault < 0 ? 1 : FAULTY - fault;
     }
@@ -248,13 +248,13 @@ public final class MiddleOne {
 
     public int strike() {
         if (deed.leads(Deed.NOW) >= LAST_STROKE) return STATE;
-        int who = deed.passes();
+        int who = deed.opensNow();
         return who == NOBODY ? NOT : who;
     }
 
     public int take(int person) {
         if (!told.has(person)) return BAD;
-        if (((deed.waiting() >> person) & 1) == 0) return STATE;
+        if (((deed.waitingNow() >> person) & 1) == 0) return STATE;
         return deed.sendsAway(person);
     }
 
@@ -347,7 +347,7 @@ public final class MiddleOne {
     public int count(int what) {
         switch (what) {
             case 0: return told.size();
-            case 1: return Integer.bitCount(deed.waiting());
+            case 1: return Integer.bitCount(deed.waitingNow());
             case 2: return deed.numberIn();
             case 3: return reader.size();
             case 4: return changes.undoable();
@@ -582,7 +582,7 @@ public final class MiddleOne {
 
         private boolean operand(int open) {
             int sign = sign();
-            if (isDigit(sign)) return number();
+            if (isDigit(sign)) return digits();
             if (isName(sign)) {
                 place++;
                 makes(sign, 0);
@@ -602,9 +602,9 @@ public final class MiddleOne {
             return true;
         }
 
-        private boolean number() {
+        private boolean digits() {
             int value = 0;
-            for (int digits = 0; digits < MOST_DIGITS && isDigit(sign()); digits++) {
+            for (int read = 0; read < MOST_DIGITS && isDigit(sign()); read++) {
                 value = value * 10 + (sign() - '0');
                 place++;
             }
@@ -651,7 +651,7 @@ public final class MiddleOne {
         /** A text has room for no more operands than half its bytes. */
         private final int[] stack = new int[Reader.MOST_STEPS / 2 + 1];
 
-        void becomes(Reader reader) {
+        void learns(Reader reader) {
             size = reader.copySteps(steps, details);
         }
 
@@ -1142,7 +1142,7 @@ public final class MiddleOne {
             return what >= 0 && what <= NOW ? state[what] : 0;
         }
 
-        int waiting() {
+        int waitingNow() {
             return told.waiting(state[NOW], told.everyone() & ~state[IN] & ~state[AWAY]);
         }
 
@@ -1154,8 +1154,8 @@ public final class MiddleOne {
             return person >= 0 && person < Crowd.MOST ? inAt[person] : NOT;
         }
 
-        int passes() {
-            int waiting = waiting();
+        int opensNow() {
+            int waiting = waitingNow();
             int who = picker.picks(told, state[NOW], waiting, Picker.MIDDLE);
             state[MOST_WAITED] = Math.max(state[MOST_WAITED], Integer.bitCount(waiting));
             if (who >= 0 && who < Crowd.MOST) {
@@ -1331,7 +1331,7 @@ public final class MiddleOne {
             if (!has(body) || act < 0 || act >= ACTS) return 0;
             own = kinds[body];
             number = body;
-            return runs(own, act, x, 0);
+            return plays(own, act, x, 0);
         }
 
         /** The KIND, from one on upward, that has a body for an act. */
@@ -1349,7 +1349,7 @@ public final class MiddleOne {
             ran++;
         }
 
-        private int runs(int from, int act, int x, int depth) {
+        private int plays(int from, int act, int x, int depth) {
             if (depth > DEEPEST) return 0;
             int kind = holder(from, act);
             int above = ABOVE[kind];
@@ -1358,18 +1358,18 @@ public final class MiddleOne {
             notes(body);
             switch (body) {
                 case 1: return x + number;
-                case 2: return runs(own, COUNTS, x, next) - runs(own, OPENS, 1, next);
-                case 10: return runs(own, WAITS, x, next) * 2;
+                case 2: return plays(own, COUNTS, x, next) - plays(own, OPENS, 1, next);
+                case 10: return plays(own, WAITS, x, next) * 2;
                 case 11: return x ^ number;
-                case 20: return runs(above, WAITS, x, next) + 3;
-                case 30: return -runs(above, COUNTS, x, next);
-                case 40: return runs(above, OPENS, x, next) * 3;
-                case 41: return runs(above, COUNTS, x + 1, next);
-                case 50: return runs(above, OPENS, x, next) - runs(own, WAITS, 2, next);
-                case 60: return runs(above, TELLS, x, next) ^ 5;
-                case 70: return runs(above, WAITS, x, next) * 2;
-                case 80: return runs(above, COUNTS, x, next) + runs(own, OPENS, 2, next);
-                case 81: return runs(above, TELLS, x, next) - 1;
+                case 20: return plays(above, WAITS, x, next) + 3;
+                case 30: return -plays(above, COUNTS, x, next);
+                case 40: return plays(above, OPENS, x, next) * 3;
+                case 41: return plays(above, COUNTS, x + 1, next);
+                case 50: return plays(above, OPENS, x, next) - plays(own, WAITS, 2, next);
+                case 60: return plays(above, TELLS, x, next) ^ 5;
+                case 70: return plays(above, WAITS, x, next) * 2;
+                case 80: return plays(above, COUNTS, x, next) + plays(own, OPENS, 2, next);
+                case 81: return plays(above, TELLS, x, next) - 1;
                 default: return 0;
             }
         }

@@ -7,7 +7,9 @@ import java.nio.file.Files;
 import java.nio.file.Path;
 import java.util.ArrayList;
 import java.util.List;
+import java.util.Map;
 import java.util.Set;
+import java.util.TreeMap;
 import java.util.TreeSet;
 import java.util.regex.Matcher;
 import java.util.regex.Pattern;
@@ -108,6 +110,52 @@ public final class FaceTest {
         due.holds("all methods were found: " + methods, methods > 100);
     }
 
+    /** Who calls whom, by names, since no two methods that matter share one: calls that are no recursion go at most eight deep. */
+    private static void depth(String code) {
+        Map<String, Set<String>> calls = new TreeMap<>();
+        Matcher heads = Pattern.compile("(?m)^( {4}| {8})(?:public |private |static |final )*(?:[\\w\\[\\]]+ )(\\w+)\\([^)]*\\) \\{$").matcher(code);
+        Map<String, String> bodies = new TreeMap<>();
+        while (heads.find()) {
+            int end = code.indexOf("\n" + heads.group(1) + "}\n", heads.end());
+            bodies.merge(heads.group(2), code.substring(heads.end(), end), String::concat);
+        }
+        for (String name : bodies.keySet()) {
+            Set<String> called = new TreeSet<>();
+            Matcher m = Pattern.compile("\\b(\\w+)\\(").matcher(bodies.get(name));
+            while (m.find()) if (bodies.containsKey(m.group(1)) && !m.group(1).equals(name)) called.add(m.group(1));
+            calls.put(name, called);
+        }
+        due.holds("calls were found", calls.get("allWear").contains("allChoose"));
+        for (String name : calls.keySet()) {
+            due.holds("calls from " + name + " on go at most eight deep: " + deepest(calls, name, new ArrayList<>()),
+                deepest(calls, name, new ArrayList<>()).size() <= 8);
+        }
+    }
+
+    private static List<String> deepest(Map<String, Set<String>> calls, String name, List<String> above) {
+        List<String> here = new ArrayList<>(above), best;
+        here.add(name);
+        best = here;
+        for (String called : calls.get(name)) {
+            if (here.contains(called)) continue;
+            List<String> deeper = deepest(calls, called, here);
+            if (deeper.size() > best.size()) best = deeper;
+        }
+        return best;
+    }
+
+    /** All rows are made with the object: whatever runs in one room, a call makes nothing. */
+    private static void made(String code) {
+        int made = 0;
+        for (String line : code.split("\n")) {
+            if (!line.contains("new ")) continue;
+            made++;
+            boolean withTheObject = line.matches(" +private final .* = new .*;") || line.matches(" {8}(Picker )?\\w+ = new [A-Z]\\w+\\([a-z, ]*\\);");
+            due.holds("it is made with the object: " + line.strip(), withTheObject);
+        }
+        due.holds("what is made was found: " + made, made > 20);
+    }
+
     public static void main(String[] args) throws IOException {
         face();
         String source = Files.readString(SOURCE);
@@ -115,6 +163,8 @@ public final class FaceTest {
         String code = bare(source);
         words(code);
         sizes(code);
+        depth(code);
+        made(code);
         due.ends();
     }
 }
