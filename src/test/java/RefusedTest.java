@@ -388,6 +388,17 @@ public final class RefusedTest {
         due.holds(call + " changes nothing", Arrays.equals(probe(x), untouched));
     }
 
+    /** "All memory is the class's own": what one object is told, another knows nothing of. */
+    private static void twoObjects() {
+        MiddleOne x = used(crowd);
+        MiddleOne other = used(12);
+        probe(other);
+        for (int shelf = 0; shelf < 6; shelf++) other.row(shelf, 0, 60);
+        Due.law(other, "k*k");
+        due.holds("one object as it was, while another was used", Arrays.equals(probe(x), untouched));
+        due.is("a new object beside them", new MiddleOne().count(0), 0);
+    }
+
     public static void main(String[] args) {
         with(4);
         people();
@@ -401,6 +412,7 @@ public final class RefusedTest {
         acts();
         rows();
         asking();
+        twoObjects();
         due.ends();
     }
 }
