@@ -67,6 +67,11 @@ public final class EdgesGatesTest {
         x.person(150, 99);
         due.is("even at 99 at the first", x.where(0), 1);
         due.is("alone", Due.crowd(150).where(0), 0);
+        // Of 2, 4, .. like ones, who are even for ever, each is let in at once at the second gate; of odd ones all but the middle one.
+        for (int n = 2; n <= 12; n++) {
+            MiddleOne like = many(n);
+            for (int p = 0; p < n; p++) due.is(p + " of " + n, like.where(p), n % 2 == 1 && p == n / 2 ? 0 : 1);
+        }
     }
 
     /** "(8 PEOPLE at most, else STATE; of like ones the least bits)". */

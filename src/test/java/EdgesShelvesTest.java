@@ -211,6 +211,23 @@ public final class EdgesShelvesTest {
         }
     }
 
+    /** "to another one (or the same)": from each shelf to each. */
+    private static void shiftFromEachToEach() {
+        for (int shelf = 0; shelf < 6; shelf++) {
+            for (int other = 0; other < 6; other++) {
+                MiddleOne x = new MiddleOne();
+                for (int s = 0; s < 6; s++) Due.row(x, s, SHORTS, 100 * s, 100 * s + 1, 100 * s + 2, 100 * s + 3);
+                due.is("two from " + shelf + " to " + other, x.shift(shelf, 2, other, 1, 2), 2);
+                for (int s = 0; s < 6; s++) {
+                    for (int i = 0; i < 4; i++) {
+                        boolean came = s == other && (i == 1 || i == 2);
+                        due.is("from " + shelf + " to " + other + ": " + i + " of " + s, x.element(s, i), came ? 100 * shelf + i + 1 : 100 * s + i);
+                    }
+                }
+            }
+        }
+    }
+
     /** To another row and to itself. */
     private static void shift(int size, int i, int j, int n) {
         String span = "of " + size + " from " + i + " to " + j + ", " + n;
@@ -291,6 +308,7 @@ public final class EdgesShelvesTest {
         sizes();
         lowestBits();
         shift();
+        shiftFromEachToEach();
         taken();
         count();
         due.ends();
